@@ -184,12 +184,21 @@ public final class PromiseTest {
         faultAtFirst("errand 1 1", 9);
         faultAtFirst("errand 01 1", 10);
         faultAtFirst("errand 1 4", 9);
+        faultAtFirst("errand 4 1", 7);
+        faultAtFirst("errand", 6);
         faultAtFirst("errand 1 2 3", 11);
         faultAtFirst("idle 0", 5);
     }
 
     private static void promise04FaultTokens() {
         faultAtFirst("upp", 0);
+        faultAtFirst("upz", 0);
+        faultAtFirst("upa", 0);
+        faultAtFirst("up`", 2);
+        faultAtFirst("up{", 2);
+        faultAtFirst("half 20/", 7);
+        faultAtFirst("half 20:", 7);
+        faultAtFirst("half 59", NONE);
         faultAtFirst("u p", 0);
         faultAtFirst("Up", 0);
         faultAtFirst("uP", 0);
@@ -212,6 +221,12 @@ public final class PromiseTest {
         faultAtFirst(" ;up", 1);
         faultAtFirst("up;;up", 3);
         faultAtFirst("half 999999999999999999999", 5);
+        faultAtFirst(" ".repeat(200), 200);
+        faultAtFirst("u".repeat(200), 0);
+        faultAtFirst("half " + "0".repeat(195), 5);
+        faultAtFirst(" ".repeat(198) + "up", NONE);
+        faultAtFirst("half 10" + " ".repeat(193), NONE);
+        faultAtFirst(" ".repeat(199) + ";", 199);
     }
 
     private static void promise04FaultBehindLines() {
@@ -257,16 +272,29 @@ public final class PromiseTest {
         due("height behind town 4", 0, x.corner(1, 0));
         doText(x, "corner 1 7 3;errand 2 1;idle");
         due("idle", 0, x.count(4));
+        doText(x, "level 0 3 9;even;errand 2 3");
         x.rest(5);
+        x.go(0);
         x.keep(0);
         x.walk(1);
         x.seen(0, 1, 0);
-        doText(x, "up");
+        doText(x, "free 0");
+        due("corner behind a text", 0, x.here(0));
+        due("law stays behind a text", 1, x.count(2));
+        due("street stays behind a text", 9, x.street(0, 3));
         due("minute behind a text", 0, x.here(1));
         due("walk behind a text", 0, x.count(5));
         due("steps behind a text", 0, x.count(6));
         due("kept behind a text", NOT, x.back(0));
         due("heights stay behind a text", 7, x.corner(1, 0));
+        doText(x, "level 2 3 9");
+        due("errand stays behind a text", 1, x.served());
+        UphillOnly y = townOf("down;errand 2 3;level 2 3 9;half 10;stuck 3;corner 3 4 5", "free 0");
+        due("law", 2, y.count(2));
+        due("errand", 1, y.served());
+        due("half", 10, y.count(3));
+        due("stuck", 8, y.count(8));
+        due("height", 4, y.corner(3, 1));
     }
 
     private static void promise05TownIsRefusedWhole() {
@@ -346,6 +374,10 @@ public final class PromiseTest {
         doText(x, "corner 0 5 5;corner 1 5 5;bridge 0 1 1");
         due("stair at one height", 0, x.as(0, 2));
         due("bridge at one height", 10, x.as(2, 4));
+        doText(x, "corner 1 6 6;paved 0 1 1");
+        due("stair by 1", 3, x.as(0, 2));
+        due("bridge by 1", 11, x.as(2, 4));
+        due("paved by 1", 3, x.as(3, 1));
     }
 
     private static void promise08AsByLaw() {
@@ -493,6 +525,11 @@ public final class PromiseTest {
         due("never", NONE, x.soonest(0, 1, 0));
         due("a whole half", 20, x.soonest(1, 2, 1));
         due("at once", 10, x.soonest(2, 1, 0));
+        doText(x, "town 2;corner 0 0 9;corner 1 9 0;paved 0 1 5");
+        due("late in the day", 60, x.soonest(0, 1, 55));
+        due("too late in the day: the next one", 125, x.soonest(0, 1, 56));
+        due("late in the night", 120, x.soonest(1, 0, 115));
+        due("too late in the night: the next one", 185, x.soonest(1, 0, 116));
     }
 
     private static void promise16Home() {
@@ -517,6 +554,7 @@ public final class PromiseTest {
         due("corner -1", UNKNOWN, x.cut(-1));
         doText(x, "stuck 0");
         due("stuck already", NOT, x.cut(0));
+        due("from the first corner as well", 1, townOf("corner 1 0 9;paved 0 1 5").cut(1));
         due("2 as well", 1, x.cut(2));
         due("nothing is stuck by it", 1, x.count(8));
     }
@@ -583,6 +621,10 @@ public final class PromiseTest {
         due("served as it is", 0, x.mended(0));
         due("what 2", OUTSIDE, x.mended(2));
         due("what -1", OUTSIDE, x.mended(-1));
+        due("all eight", 255, townOf("town 8;stuck 0;stuck 1;stuck 2;stuck 3;stuck 4;stuck 5;stuck 6;stuck 7",
+                "corner 0 50 80;corner 2 50 80;corner 4 50 80;corner 6 50 80",
+                "corner 1 50 90;corner 3 50 90;corner 5 50 90;corner 7 50 90",
+                "stair 0 1 5;stair 2 3 5;stair 4 5 5;stair 6 7 5;errand 0 1;errand 2 3;errand 4 5;errand 6 7").mended(1));
         UphillOnly y = townOf("town 3;corner 0 5 0;corner 1 5 9;paved 0 1 5;stuck 0;stuck 1;errand 0 1");
         due("either would do", 1, y.mended(0));
         due("of several sets the least", 1, y.mended(1));
