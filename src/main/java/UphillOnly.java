@@ -264,7 +264,8 @@ public final class UphillOnly {
         int best = NONE;
         int most = NONE;
         for (int law = 0; law < LAWS; law++) {
-            int many = manyServed(law);
+            ways.lay(current, law, current.stuck);
+            int many = Integer.bitCount(ways.servedErrands(current));
             if (many > most) {
                 best = law;
                 most = many;
@@ -277,11 +278,9 @@ public final class UphillOnly {
         if (what != 0 && what != 1) {
             return OUTSIDE;
         }
-        if (current.streets == 0) {
-            return what == 0 ? NONE : manyServed(current.law);
-        }
         int best = NONE;
-        int most = NONE;
+        ways.layAsItIs(current);
+        int most = current.streets == 0 ? Integer.bitCount(ways.servedErrands(current)) : NONE;
         for (int street = 0; street < current.streets; street++) {
             ways.layAsItIs(current);
             ways.open[street] = ALWAYS_OPEN;
@@ -455,11 +454,6 @@ public final class UphillOnly {
         ways.lay(current, current.law, stuck);
         ways.spread(current, from, 0);
         return ways.thereBy(current, EVER);
-    }
-
-    private int manyServed(int law) {
-        ways.lay(current, law, current.stuck);
-        return Integer.bitCount(ways.servedErrands(current));
     }
 
     /** The corners, by bits, to which a chain of steps told for this half leads from one. */
