@@ -550,7 +550,7 @@ public final class BoundaryTextTest {
 
     private static void promise05TownIsAllElseAsAtFirst() {
         for (int n = 2; n <= 8; n++) {
-            UphillOnly x = Bench.townOf("town 8;half 10;down;corner 1 5 6;corner 7 5 6;stuck 0;stuck 7;errand 0 1;level 0 1 2");
+            UphillOnly x = Bench.townOf("town 8;half 10;down;corner 0 3 4;corner 1 5 6;corner 7 5 6;stuck 0;stuck 7;errand 0 1;level 0 1 2");
             x.walk(0);
             Bench.done(x, "town " + n);
             UphillOnly fresh = Bench.townOf("town " + n);

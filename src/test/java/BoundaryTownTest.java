@@ -40,7 +40,7 @@ public final class BoundaryTownTest {
             due(6, "corner(0, 0) of " + n, 3, x.corner(0, 0));
             due(6, "corner(n less 1, 0) of " + n, 98, x.corner(n - 1, 0));
             due(6, "corner(n less 1, 1) of " + n, 97, x.corner(n - 1, 1));
-            for (int c : new int[] {-1, n, 8, 32, 64, LEAST, MOST}) {
+            for (int c : new int[] {-1, n, n + 1, 8, 32, 64, LEAST, MOST}) {
                 for (int what = -1; what <= 3; what++) {
                     due(6, "corner(" + c + ", " + what + ") of " + n, UNKNOWN, x.corner(c, what));
                 }

@@ -50,7 +50,7 @@ public final class BoundaryWalksTest {
     private static void promise22CornersThatThereAre() {
         for (int n = 2; n <= 8; n++) {
             UphillOnly x = Bench.townOf("town " + n);
-            for (int c : new int[] {-1, n, 8, LEAST, MOST}) {
+            for (int c : new int[] {-1, n, n + 1, 8, LEAST, MOST}) {
                 due(22, "walk(" + c + ") of " + n, UNKNOWN, x.walk(c));
                 due(22, "count(5), refused", 0, x.count(5));
             }
@@ -148,6 +148,10 @@ public final class BoundaryWalksTest {
         walked(x, 0, 1, 3, 0, 1);
         judged("the first of several", 7, 2, 10, x);
         due(24, "without streets", 1, walkedAnew("town 2", 0, 1).judge(0, 0));
+        judged("none of twelve STREETS", 0, 1, 0, walkedAnew(Bench.lines(12, "paved 0 1 1"), 0, 1));
+        UphillOnly anew = Bench.townOf("level 0 1 1", "town 4");
+        walked(anew, 0, 1);
+        judged("a STREET that was ahead of 'town 4'", 0, 1, 0, anew);
     }
 
     private static UphillOnly walkedAnew(String text, int... corners) {
@@ -207,7 +211,7 @@ public final class BoundaryWalksTest {
     private static void promise25WhatIsAsked() {
         for (int n : new int[] {2, 4, 8}) {
             UphillOnly x = Bench.townOf("town " + n);
-            for (int c : new int[] {-1, n, 8, LEAST, MOST}) {
+            for (int c : new int[] {-1, n, n + 1, 8, LEAST, MOST}) {
                 due(25, "seen(" + c + ", 0, 0) of " + n, UNKNOWN, x.seen(c, 0, 0));
                 due(25, "seen(0, " + c + ", 0) of " + n, UNKNOWN, x.seen(0, c, 0));
                 due(25, "seen(" + c + ", " + c + ", 0): UNKNOWN ahead", UNKNOWN, x.seen(c, c, 0));
@@ -275,7 +279,7 @@ public final class BoundaryWalksTest {
             due(27, "sure(0, n less 1, 1)", 1, x.sure(0, n - 1, 1));
             due(27, "sure(n less 1, 0, 1)", 0, x.sure(n - 1, 0, 1));
             due(27, "sure(n less 1, n less 1, 1)", 1, x.sure(n - 1, n - 1, 1));
-            for (int c : new int[] {-1, n, 8, LEAST, MOST}) {
+            for (int c : new int[] {-1, n, n + 1, 8, LEAST, MOST}) {
                 due(27, "sure(" + c + ", 0, 0) of " + n, UNKNOWN, x.sure(c, 0, 0));
                 due(27, "sure(0, " + c + ", 0) of " + n, UNKNOWN, x.sure(0, c, 0));
                 due(27, "sure(" + c + ", " + c + ", 0) of " + n, UNKNOWN, x.sure(c, c, 0));

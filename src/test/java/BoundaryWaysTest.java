@@ -16,6 +16,8 @@ public final class BoundaryWaysTest {
         promise15Never();
         promise15LateBegins();
         promise15WaitingHelps();
+        promise15SoonestOfSeveralWays();
+        promise15StreetsOfTheTownAsItIs();
         promise16WhatIsAsked();
         promise16ThereAndBack();
         promise16None();
@@ -42,7 +44,7 @@ public final class BoundaryWaysTest {
                 due(14, "reach(0, " + half + ")", OUTSIDE, x.reach(0, half));
                 due(14, "reach(" + n + ", " + half + "): UNKNOWN ahead", UNKNOWN, x.reach(n, half));
             }
-            for (int c : new int[] {-1, n, 8, LEAST, MOST}) {
+            for (int c : new int[] {-1, n, n + 1, 8, LEAST, MOST}) {
                 due(14, "reach(" + c + ", 0) of " + n, UNKNOWN, x.reach(c, 0));
                 due(14, "reach(" + c + ", 1) of " + n, UNKNOWN, x.reach(c, 1));
             }
@@ -112,7 +114,7 @@ public final class BoundaryWaysTest {
             UphillOnly x = Bench.townOf("town " + n + ";level 0 " + (n - 1) + " 1");
             due(15, "soonest(0, n less 1, 0)", 1, x.soonest(0, n - 1, 0));
             due(15, "soonest(n less 1, 0, 9999)", 10000, x.soonest(n - 1, 0, 9999));
-            for (int c : new int[] {-1, n, 8, LEAST, MOST}) {
+            for (int c : new int[] {-1, n, n + 1, 8, LEAST, MOST}) {
                 due(15, "soonest(" + c + ", 0, 0)", UNKNOWN, x.soonest(c, 0, 0));
                 due(15, "soonest(0, " + c + ", 0)", UNKNOWN, x.soonest(0, c, 0));
                 due(15, "soonest(" + c + ", " + c + ", 0)", UNKNOWN, x.soonest(c, c, 0));
@@ -202,6 +204,31 @@ public final class BoundaryWaysTest {
         due(15, "at 3 by the whole of the next", 20, y.soonest(0, 1, 3));
     }
 
+    /** The detour that is sooner, its corners in every order of their numbers. */
+    private static void promise15SoonestOfSeveralWays() {
+        for (int via = 1; via < 4; via++) {
+            for (int to = 1; to < 4; to++) {
+                int last = 6 - via - to;
+                if (via != to) {
+                    UphillOnly x = Bench.townOf("half 10;level 0 " + to + " 9;level 0 " + via + " 2;level " + to + " " + via + " 3;level "
+                        + to + " " + last + " 5");
+                    due(15, "by " + via + " to " + to, 5, x.soonest(0, to, 0));
+                    due(15, "by " + via + " and " + to + " to " + last, 10, x.soonest(0, last, 0));
+                    due(15, "by " + via + " and " + to + " to " + last + ", a minute late", 15, x.soonest(0, last, 1));
+                    due(14, "by " + via + " and " + to + " to " + last, 15, x.reach(0, 0));
+                }
+            }
+        }
+    }
+
+    private static void promise15StreetsOfTheTownAsItIs() {
+        UphillOnly x = Bench.townOf(Bench.lines(12, "level 0 1 1"), "town 4");
+        due(15, "no STREETS any more", NONE, x.soonest(0, 1, 0));
+        Bench.done(x, "level 2 3 1");
+        due(15, "the first is another one now", NONE, x.soonest(0, 1, 0));
+        due(15, "and can be gone by", 1, x.soonest(3, 2, 0));
+    }
+
     // ---- promise 16: HOME: the MINUTE; NONE. UNKNOWN.
 
     private static void promise16WhatIsAsked() {
@@ -209,7 +236,7 @@ public final class BoundaryWaysTest {
             UphillOnly x = Bench.townOf("town " + n + ";level 0 " + (n - 1) + " 1");
             due(16, "home(0, n less 1)", 2, x.home(0, n - 1));
             due(16, "home(n less 1, 0)", 2, x.home(n - 1, 0));
-            for (int c : new int[] {-1, n, 8, LEAST, MOST}) {
+            for (int c : new int[] {-1, n, n + 1, 8, LEAST, MOST}) {
                 due(16, "home(" + c + ", 0)", UNKNOWN, x.home(c, 0));
                 due(16, "home(0, " + c + ")", UNKNOWN, x.home(0, c));
                 due(16, "home(" + c + ", " + c + ")", UNKNOWN, x.home(c, c));
@@ -247,7 +274,7 @@ public final class BoundaryWaysTest {
             UphillOnly x = Bench.townOf("town " + n + ";stuck " + (n - 1));
             due(17, "cut(0)", 0, x.cut(0));
             due(17, "cut(n less 1), STUCK", NOT, x.cut(n - 1));
-            for (int c : new int[] {-1, n, 8, 31, 32, LEAST, MOST}) {
+            for (int c : new int[] {-1, n, n + 1, 8, 31, 32, LEAST, MOST}) {
                 due(17, "cut(" + c + ") of " + n, UNKNOWN, x.cut(c));
             }
             Bench.done(x, "free " + (n - 1) + ";stuck 0");
